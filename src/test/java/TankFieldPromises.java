@@ -390,6 +390,12 @@ public final class TankFieldPromises {
         due("events stay", f.about(0, 4), 2);
         due("build", f.build(), 1);
         due("fewer events", f.about(0, 4), 1);
+        TankField g = withTanks(0, 0);
+        hits(g, 0, 5, 20);
+        due("down", g.down(0, 0, 5), 1);
+        due("ahead of its hit", g.about(0, 3), 0);
+        due("down", g.down(0, 5, 6), 2);
+        due("the first hit", g.about(0, 3), 1);
     }
 
     private static void struck() {
@@ -457,6 +463,11 @@ public final class TankFieldPromises {
             due("down", f.down(1, 1000 + 10 * i, 1005 + 10 * i), i);
         }
         due("many gaps", f.exposure(1000, 2000), 1935);
+        TankField g = withTanks(0, 0);
+        for (int i = 1; i <= 20; i++) {
+            due("down", g.down(0, 1000 - 10 * i, 1005 - 10 * i), i);
+        }
+        due("as many gaps as can be", g.exposure(0, 20001), 20001 - 100);
     }
 
     private static void rule() {
@@ -520,6 +531,15 @@ public final class TankFieldPromises {
         due("a chain in place and time", chain.event(0, 0), 3);
         due("down", chain.down(1, 0, 20001), 1);
         due("without the middle", chain.build(), 0);
+        TankField late = withTanks(0, 0, 50, 0, 100, 0);
+        hits(late, 0, 100, 20, 2, 101, 20, 1, 200, 20);
+        due("the link is the latest of them", late.build(), 1);
+        due("the link is the latest of them", late.event(0, 0), 3);
+        late.rule(0, 99);
+        late.rule(2, 2);
+        due("a window from the latest back", late.build(), 1);
+        due("a window from the latest back", late.member(0, 0), 2);
+        due("a window from the latest back", late.member(0, 1), 1);
         TankField back = withTanks(0, 0, 10, 0);
         back.rule(2, 2);
         hits(back, 0, 0, 20, 1, 100, 20, 0, 200, 20, 1, 300, 20);
@@ -810,6 +830,16 @@ public final class TankFieldPromises {
         due("early no more", middle.clock(2, 0, -20), 1);
         due("build", middle.build(), 1);
         due("furthest above 0", middle.worst(0), 2);
+        TankField exact = square();
+        hits(exact, 0, 100, 20, 1, 105, 20, 2, 107, 20);
+        due("build", exact.build(), 1);
+        due("c is 0", exact.front(0, 1), 0);
+        due("all errors are 0", exact.worst(0), 0);
+        TankField slight = withTanks(0, 0, 1, 0, 0, 1, 0, 1);
+        hits(slight, 0, 100, 20, 1, 100, 20, 2, 101, 20, 3, 100, 20);
+        due("build", slight.build(), 1);
+        due("an error of 1", slight.error(0, 2), 1);
+        due("an error of 1", slight.worst(0), 2);
         TankField line = withTanks(0, 0, 7, 0, 9, 0);
         hits(line, 0, 100, 20, 1, 101, 20, 2, 107, 20);
         due("build", line.build(), 1);
