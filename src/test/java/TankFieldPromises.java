@@ -531,6 +531,10 @@ public final class TankFieldPromises {
         due("a chain in place and time", chain.event(0, 0), 3);
         due("down", chain.down(1, 0, 20001), 1);
         due("without the middle", chain.build(), 0);
+        TankField edge = withTanks(0, 0, 50, 0, 100, 0);
+        hits(edge, 0, 100, 20, 2, 100, 20, 1, 200, 20);
+        due("a link at the window's edge both ways", edge.build(), 1);
+        due("a link at the window's edge both ways", edge.event(0, 0), 3);
         TankField late = withTanks(0, 0, 50, 0, 100, 0);
         hits(late, 0, 100, 20, 2, 101, 20, 1, 200, 20);
         due("the link is the latest of them", late.build(), 1);
