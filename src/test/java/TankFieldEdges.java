@@ -18,6 +18,25 @@ public final class TankFieldEdges {
     private static final String THREE = "tank 0 0; tank 10 0; tank 0 10; tank 10 10; ";
     private static final String EVENT = "hit 0 100 20 -1; hit 1 100 20 -1; hit 2 100 20 -1; ";
     private static final String KINDS = "tank 0 0; hit 0 1 77 -1; hit 0 2 255 3; hit 0 3 255 -1; hit 0 4 255 255; ";
+    /** Calls that name FAULTS, behind which fault() tells 0: they are done, or refused. */
+    private static final String[] CAME_TO_NONE = {"load 0 0 0 1 = 5", "load 0 0 4 0 = 4", "sheet 1 0 1 = 1", "put 0 0 0 = 1",
+        "at 0 2 0 = 9", "as 3 2 = 1", "load 4 0 0 0 = UNKNOWN", "load 0 3 0 0 = OUTSIDE", "load 2 1 0 1 = UNKNOWN",
+        "load 2 1 4 1 = OUTSIDE", "sheet 4 0 0 = UNKNOWN", "sheet 0 3 -1 = OUTSIDE", "sheet 0 0 41 = OUTSIDE",
+        "put 4 0 0 = UNKNOWN", "at 4 0 0 = LOST", "at 0 0 3 = LOST", "at 3 0 3 = LOST", "as 4 0 = UNKNOWN",
+        "as 0 4 = OUTSIDE"};
+    private static final String[] CAME_TO_ONE = {"load 3 0 0 0 = NULL; fault = 1", "load 0 1 0 0 = CAST; fault = 2",
+        "load 0 0 1 1 = INDEX; fault = 3", "load 0 0 0 -1 = SIZE; fault = 4", "sheet 0 0 -1 = SIZE; fault = 4",
+        "put 3 0 0 = NULL; fault = 1", "put 0 4 0 = INDEX; fault = 3", "at 3 0 0 = LOST; fault = 1",
+        "at 0 0 1 = LOST; fault = 2", "at 0 4 0 = LOST; fault = 3", "as 0 1 = CAST; fault = 2"};
+    /** Calls that name no FAULTS, done or refused: fault() tells behind them what it told ahead. */
+    private static final String[] NAME_NONE = {"tank 0 0 = 1", "tank 101 0 = OUTSIDE", "hit 0 0 0 -1 = 4",
+        "hit 9 0 0 -1 = UNKNOWN", "clock 0 0 0 = 1", "clock 9 0 0 = UNKNOWN", "down 0 0 0 = 1", "down 9 0 0 = UNKNOWN",
+        "about 0 0 = 0", "about 0 9 = OUTSIDE", "struck 0 0 = 0", "struck 9 0 = UNKNOWN", "exposure 0 1 = 1",
+        "exposure 1 0 = LOST", "rule 0 9 = 100", "rule 9 0 = UNKNOWN", "build = 0", "others = STATE", "isOther 0 = UNKNOWN",
+        "without 0 = 0", "without 9 = UNKNOWN", "event 0 0 = UNKNOWN", "member 0 0 = UNKNOWN", "front 0 0 = LOST",
+        "error 0 0 = LOST", "worst 0 = UNKNOWN", "core 0 0 = LOST", "drop 0 = 1", "drop 3 = 0", "drop 4 = UNKNOWN",
+        "tell 0 = 77", "tell 9 = UNKNOWN", "weigh 0 = 77", "weigh 9 = UNKNOWN", "trace = 0", "told 0 = 1",
+        "told 99 = OUTSIDE"};
 
     private static Runs runs;
 
@@ -63,7 +82,8 @@ public final class TankFieldEdges {
     private static String loaded(int hits) {
         StringBuilder calls = new StringBuilder("sheet 3 2 40; ");
         for (int h = 0; h < 10; h++) {
-            calls.append("put 3 " + (4 * h + 1) + " " + 100 * h + "; put 3 " + (4 * h + 2) + " 20; put 3 " + (4 * h + 3) + " -1; ");
+            calls.append("put 3 " + (4 * h + 1) + " " + 100 * h + "; ");
+            calls.append("put 3 " + (4 * h + 2) + " 20; put 3 " + (4 * h + 3) + " -1; ");
         }
         for (int left = hits; left > 0; left -= 10) {
             calls.append("load 3 2 0 " + Math.min(left, 10) + "; ");
@@ -197,10 +217,10 @@ public final class TankFieldEdges {
         runs.each(RICH, "clock 4 * 0", "OUTSIDE", "MIN -1 20001 MAX");
         runs.each(RICH, "clock 4 0 *", "OUTSIDE", "MIN -501 501 MAX");
         runs.rows(RICH, "clock 4 0 -500 = 2", "clock 0 20000 500 = 3", "told 3 = 3");
-        runs.rows("tank 0 0; tank 1 0; hit 0 600 20 -1; " + Runs.times(19, "clock 0 # #"), "struck 0 2 = 582",
+        runs.rows("tank 0 0; tank 1 0; hit 0 600 20 -1; hit 1 20000 20 -1; " + Runs.times(19, "clock 0 # #"), "struck 0 2 = 582",
                 "clock 2 0 0 ! UNKNOWN", "clock 0 -1 0 ! OUTSIDE", "clock 1 20000 500 = 20", "clock 2 0 0 ! UNKNOWN",
                 "clock 0 20001 0 ! OUTSIDE", "clock 0 0 -501 ! OUTSIDE", "clock 0 0 0 ! FULL", "clock 1 0 0 ! FULL",
-                "struck 0 2 = 582", "told 3 = 20", "down 0 0 1 = 1");
+                "struck 0 2 = 582", "struck 1 2 = 19500", "told 3 = 20", "down 0 0 1 = 1");
     }
 
     private static void down() {
@@ -215,10 +235,10 @@ public final class TankFieldEdges {
         runs.each(RICH, "down 4 20000 *", "OUTSIDE", "MIN 19999 20002 MAX");
         runs.rows(RICH, "down 4 0 0 = 3", "down 4 500 500 = 4", "down 4 20000 20000 = 5", "about 4 3 = 0",
                 "down 4 20000 20001 = 6", "down 4 0 20001 = 7", "about 4 3 = 2");
-        runs.rows("tank 0 0; tank 1 0; hit 0 600 20 -1; " + Runs.times(19, "down 0 # 500"), "down 2 0 0 ! UNKNOWN",
+        runs.rows("tank 0 0; tank 1 0; hit 0 600 20 -1; hit 1 0 20 -1; " + Runs.times(19, "down 0 # 500"), "down 2 0 0 ! UNKNOWN",
                 "down 0 -1 0 ! OUTSIDE", "down 1 0 20001 = 20", "down 2 0 0 ! UNKNOWN", "down 0 20001 20001 ! OUTSIDE",
-                "down 0 1 0 ! OUTSIDE", "down 0 0 20001 ! FULL", "down 1 0 0 ! FULL", "struck 0 5 = 1", "told 4 = 20",
-                "clock 0 0 1 = 1");
+                "down 0 1 0 ! OUTSIDE", "down 0 0 20001 ! FULL", "down 1 0 0 ! FULL", "struck 0 5 = 1", "struck 1 5 = 0",
+                "told 4 = 20", "clock 0 0 1 = 1");
     }
 
     private static void about() {
@@ -246,6 +266,11 @@ public final class TankFieldEdges {
                 "struck 4 6 ! NONE", "struck 9 6 ! NONE", "struck 12 6 ! NONE");
         runs.rows(ALONE + loaded(240) + "build", "struck 239 6 ! 239", "struck 0 6 ! 0", "struck 1 6 ! 24",
                 "struck 240 6 ! UNKNOWN");
+        // Of BUILDINGS only the latest one tells, however many there were.
+        runs.rows(ALONE + "hit 0 5 20 -1; build; build; build", "struck 0 6 = 0", "down 0 5 6 = 1", "build = 0",
+                "struck 0 6 ! NONE", "about 0 4 ! 0", "build = 0", "struck 0 6 ! NONE", "build = 0", "about 0 4 ! 0");
+        runs.rows(ALONE + "hit 0 5 20 -1; build; build; down 0 5 6; build", "struck 0 6 ! NONE", "about 0 4 ! 0",
+                "rule 2 1 = 1", "build = 0", "others = 0");
     }
 
     private static void exposure() {
@@ -488,33 +513,15 @@ public final class TankFieldEdges {
     private static void fault() {
         runs.sentence("The FAULT of the latest call that names one: 0: it came to none, or was refused (0 ahead of any).");
         runs.rows("", "fault ! 0");
-        String[] fine = {"load 0 0 0 1 = 5", "load 0 0 4 0 = 4", "sheet 1 0 1 = 1", "put 0 0 0 = 1", "at 0 2 0 = 9", "as 3 2 = 1"};
-        String[] refused = {"load 4 0 0 0 = UNKNOWN", "load 0 3 0 0 = OUTSIDE", "load 2 1 0 1 = UNKNOWN", "load 2 1 4 1 = OUTSIDE",
-            "sheet 4 0 0 = UNKNOWN", "sheet 0 3 -1 = OUTSIDE", "sheet 0 0 41 = OUTSIDE", "put 4 0 0 = UNKNOWN", "at 4 0 0 = LOST",
-            "at 0 0 3 = LOST", "at 3 0 3 = LOST", "as 4 0 = UNKNOWN", "as 0 4 = OUTSIDE"};
-        String[] faults = {"load 3 0 0 0 = NULL; fault = 1", "load 0 1 0 0 = CAST; fault = 2", "load 0 0 1 1 = INDEX; fault = 3",
-            "load 0 0 0 -1 = SIZE; fault = 4", "sheet 0 0 -1 = SIZE; fault = 4", "put 3 0 0 = NULL; fault = 1",
-            "put 0 4 0 = INDEX; fault = 3", "at 3 0 0 = LOST; fault = 1", "at 0 0 1 = LOST; fault = 2",
-            "at 0 4 0 = LOST; fault = 3", "as 0 1 = CAST; fault = 2"};
-        String[] nameNone = {"tank 0 0 = 1", "tank 101 0 = OUTSIDE", "hit 0 0 0 -1 = 4", "hit 9 0 0 -1 = UNKNOWN",
-            "clock 0 0 0 = 1", "clock 9 0 0 = UNKNOWN", "down 0 0 0 = 1", "down 9 0 0 = UNKNOWN", "about 0 0 = 0",
-            "about 0 9 = OUTSIDE", "struck 0 0 = 0", "struck 9 0 = UNKNOWN", "exposure 0 1 = 1", "exposure 1 0 = LOST",
-            "rule 0 9 = 100", "rule 9 0 = UNKNOWN", "build = 0", "others = STATE", "isOther 0 = UNKNOWN", "without 0 = 0",
-            "without 9 = UNKNOWN", "event 0 0 = UNKNOWN", "member 0 0 = UNKNOWN", "front 0 0 = LOST", "error 0 0 = LOST",
-            "worst 0 = UNKNOWN", "core 0 0 = LOST", "drop 0 = 1", "drop 3 = 0", "drop 4 = UNKNOWN", "tell 0 = 77",
-            "tell 9 = UNKNOWN", "weigh 0 = 77", "weigh 9 = UNKNOWN", "trace = 0", "fault = 3", "told 0 = 1", "told 99 = OUTSIDE"};
         String scene = KINDS + cells(0, 0, "0 9 9 -1") + cells(2, 1, "7 0 0 -1 0 0 256 -1");
-        for (String call : fine) {
+        for (String call : CAME_TO_NONE) {
             runs.rows(scene, "put 0 4 0 = INDEX", call, "fault = 0", "fault = 0");
         }
-        for (String call : refused) {
-            runs.rows(scene, "put 0 4 0 = INDEX", call, "fault = 0");
-        }
-        for (String call : faults) {
+        for (String call : CAME_TO_ONE) {
             runs.rows(scene, call, "sheet 1 0 -1 = SIZE", call);
-            for (String other : nameNone) {
-                String left = call.substring(call.length() - 1);
-                runs.rows(scene, call, other.equals("fault = 3") ? "fault = " + left : other, "fault = " + left);
+            String left = call.substring(call.lastIndexOf("fault"));
+            for (String other : NAME_NONE) {
+                runs.rows(scene, call, other, left);
             }
         }
         runs.rows(ONE + loaded(240), "put 3 40 0 = INDEX", "load 3 2 0 1 = FULL", "fault = 0");

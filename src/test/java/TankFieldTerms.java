@@ -17,6 +17,7 @@ public final class TankFieldTerms {
 
     public static void main(String[] args) throws IOException {
         runs = new Runs();
+        calls();
         refusals();
         faults();
         tanks();
@@ -39,6 +40,12 @@ public final class TankFieldTerms {
         sheets();
         telling();
         runs.close();
+    }
+
+    private static void calls() {
+        runs.sentence("An object is used for at most 512 calls after it has been made");
+        runs.rows(KINDS, "tell 1 = 303", Runs.times(505, "build = 0"), "told 5 = 505");
+        runs.rows(ALONE + "hit 0 5 20 -1", Runs.times(508, "build = 1"), "others = 0");
     }
 
     private static void refusals() {
@@ -303,6 +310,12 @@ public final class TankFieldTerms {
         runs.rows(both + "hit 0 99 9 -1; hit 0 100 10 -1", "build = 1", "member 0 0 = 2");
         runs.rows(both + "hit 0 0 20 -1; hit 0 1 20 -1; clock 0 0 -1", "build = 1", "member 0 0 = 1", "clock 0 0 0 = 2",
                 "build = 1", "member 0 0 = 1", "rule 0 99 = 100", "build = 1", "member 0 0 = 2");
+        // The third TANK hangs on the second alone, which comes later than all of its HITS, or earlier.
+        String line = "tank 0 0; tank 50 0; tank 100 0; hit 1 200 20 -1; ";
+        runs.rows(line + "hit 0 100 20 -1; hit 2 110 20 -1; hit 2 180 20 -1", "build = 1", "member 0 2 = 2", "event 0 3 = 4");
+        runs.rows(line + "hit 0 100 20 -1; hit 2 180 20 -1; hit 2 110 20 -1; hit 2 110 20 -1", "build = 1", "member 0 2 = 3",
+                "event 0 3 = 5");
+        runs.rows(line + "hit 0 300 20 -1; hit 2 290 20 -1; hit 2 210 20 -1", "build = 1", "member 0 2 = 3", "event 0 3 = 4");
     }
 
     private static void order() {
@@ -378,35 +391,25 @@ public final class TankFieldTerms {
                 "worst 0 ! NONE", "core 0 2 = " + 20 * tanks);
     }
 
-    /** All TANKS at the corners, with TIMES PUT RIGHT from -500 to 20500: no greater numbers can come. */
+    /** All TANKS at the corners, with TIMES PUT RIGHT from -500 to 20500: about as great numbers as can come. */
     private static void greatestFront() {
-        int[][] corners = {{-100, -100}, {-100, -100}, {100, 100}, {100, -100}, {-100, 100}};
+        int[][] corners = {{-100, -100}, {100, 100}, {100, -100}, {-100, 100}};
         List<String> calls = new ArrayList<>(List.of("rule 0 300", "rule 1 300"));
         long[][] xyt = new long[30][];
         for (int t = 0; t < 30; t++) {
-            int[] at = corners[t < 2 ? t : 2 + t % 3];
+            int[] at = corners[t < 2 ? 0 : 1 + t % 3];
             calls.add("tank " + at[0] + " " + at[1]);
-            xyt[t] = new long[] {at[0], at[1], 21000};
+            xyt[t] = new long[] {at[0], at[1], t == 0 ? 0 : t == 1 ? 250 : t < 17 ? 21000 : 20500};
         }
-        // A chain from the first TIME to the last one, by two TANKS at one place, each put right by as much.
-        calls.add("clock 0 0 500; clock 1 0 500; clock 0 600 0; clock 1 600 0");
-        calls.add("hit 0 0 20 -1; hit 1 250 20 -1; hit 0 500 20 -1; hit 1 599 20 -1; hit 0 600 20 -1");
-        calls.add("clock 0 0 500; clock 0 599 300; clock 1 599 300; clock 0 600 200; clock 1 700 0; clock 0 800 0");
-        calls.add("hit 1 700 20 -1");
-        for (int time = 900; time <= 20000; time += 250) {
-            calls.add("hit " + (time / 50 % 10 == 8 ? 0 : 1) + " " + time + " 20 -1");
+        // A chain of the first two TANKS: -500, -250, 1, 300, 600 .. 19800, 20000, 20250.
+        calls.add("clock 0 0 500; clock 0 1 0; clock 1 0 450; clock 1 201 0; clock 1 20000 -250");
+        calls.add("hit 0 0 20 -1; hit 1 200 20 -1; hit 0 1 20 -1");
+        for (int i = 1; i <= 66; i++) {
+            calls.add("hit " + i % 2 + " " + 300 * i + " 20 -1");
         }
-        calls.add("hit 0 19999 20 -1; hit 1 20000 20 -1; clock 0 19999 -200; clock 1 20000 -400");
+        calls.add("hit 1 19999 20 -1; hit 0 20000 20 -1; hit 1 20000 20 -1");
         for (int t = 2; t < 30; t++) {
-            calls.add("hit " + t + " 20000 20 -1");
-        }
-        for (int t = 2; t < 10; t++) {
-            calls.add("clock " + t + " 20000 -500");
-        }
-        xyt[0][2] = 0;
-        xyt[1][2] = 250;
-        for (int t = 10; t < 30; t++) {
-            xyt[t][2] = 20500;
+            calls.add("hit " + t + " 20000 20 -1" + (t < 17 ? "; clock " + t + " 0 -500" : ""));
         }
         BigInteger[] fit = fit(xyt);
         List<String> rows = new ArrayList<>(List.of("build = 1", "event 0 0 = 30", "event 0 1 = -500", "event 0 2 = 20500"));
@@ -482,6 +485,8 @@ public final class TankFieldTerms {
         runs.rows(other + "hit 0 100 255 255; build", "event 0 4 = 0", "core 0 2 = 4100");
         runs.rows(other + "hit 0 100 30 -1; hit 0 100 255 -1; hit 0 101 255 255; build", "event 0 3 = 4", "event 0 4 = 1",
                 "core 0 2 = 50");
+        runs.rows(NEIGHBOURS + "hit 0 100 20 -1; hit 1 100 20 -1; hit 0 900 255 255; hit 1 900 255 -1; hit 0 1800 20 -1;"
+                + "hit 1 1800 20 -1; build", "event 0 4 = 1", "event 1 4 = 0", "event 2 4 = 1");
     }
 
     private static void exposure() {
@@ -501,6 +506,7 @@ public final class TankFieldTerms {
                 "down 1 0 20001 = 8", "exposure 0 20001 = 19849", "down 0 0 20000 = 9", "exposure 0 20001 = 1",
                 "down 0 20000 20001 = 10", "exposure 0 20001 = 0");
         runs.rows(ONE + "clock 0 0 500; down 0 100 200", "exposure 99 100 = 1", "exposure 100 200 = 0", "exposure 200 201 = 1");
+        runs.rows(ONE + "down 0 100 100", "exposure 0 20001 = 20001", "exposure 100 101 = 1", "exposure 100 100 = 0");
         StringBuilder spread = new StringBuilder(ONE);
         for (int i = 0; i < 20; i++) {
             spread.append("down 0 ").append(1000 - 10 * i).append(' ').append(1005 - 10 * i).append("; ");
