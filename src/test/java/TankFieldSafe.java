@@ -15,8 +15,8 @@ import java.util.Random;
 import java.util.Set;
 
 /**
- * What LANGUAGE.md asks of every call in every state, past the 512th call too, where answers are free: it ends,
- * nothing is thrown, like calls give like answers, and the object takes no more room than at first.
+ * What LANGUAGE.md asks of every call, past the 512th too, where answers are free: it ends, nothing is thrown, like
+ * calls give like answers, and the object takes no more room than at first. Asked of new fields and of full ones.
  */
 public final class TankFieldSafe {
     private static final int RUNS = 60, CALLS = 4000;
